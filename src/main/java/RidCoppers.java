@@ -68,8 +68,10 @@ public final class RidCoppers {
         if (live.payerCount >= PAYERS) {
             return FULL;
         }
+        // an undo has emptied the purse again that another one of this number had
         int number = live.payerCount;
-        live.welcome(newPayer(kind, number, v));
+        live.payers[number] = newPayer(kind, number, v);
+        live.payerCount++;
         return number;
     }
 
@@ -721,20 +723,6 @@ public final class RidCoppers {
             town = other.town;
         }
 
-        /** A new payer has an empty purse, whoever had this number ahead of an undo. */
-        void welcome(Payer one) {
-            int p = one.number;
-            payers[p] = one;
-            paid[p] = 0;
-            for (int s = 0; s < SORTS; s++) {
-                purses[p][s] = 0;
-            }
-            for (int part = 0; part < PARTS; part++) {
-                rows[p][part] = 0;
-            }
-            payerCount = p + 1;
-        }
-
         int weight(int payer) {
             int weight = 0;
             for (int s = 0; s < SORTS; s++) {
@@ -777,15 +765,18 @@ public final class RidCoppers {
         boolean choose(World world, Payer payer, int price) {
             int hands = begin(world, payer, true);
             this.price = price;
-            boolean weighs = payer.thinksOfWeight();
+            boolean ranksEarly = !payer.thinksOfWeight();
             long best = HUGE;
             for (int h = 0; h < hands; h++) {
                 // what comes back is dear to know, and matters to few
-                boolean hopeful = sum >= price && (weighs || payer.rank(this) < best);
-                if (hopeful && pays() && payer.rank(this) < best) {
-                    best = payer.rank(this);
-                    System.arraycopy(given, 0, bestGiven, 0, SORTS);
-                    System.arraycopy(back, 0, bestBack, 0, SORTS);
+                boolean hopeless = sum < price || (ranksEarly && payer.rank(this) >= best);
+                if (!hopeless && pays()) {
+                    long rank = payer.rank(this);
+                    if (rank < best) {
+                        best = rank;
+                        System.arraycopy(given, 0, bestGiven, 0, SORTS);
+                        System.arraycopy(back, 0, bestBack, 0, SORTS);
+                    }
                 }
                 advance();
             }
