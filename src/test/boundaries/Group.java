@@ -7,7 +7,7 @@ abstract class Group {
 
     abstract void sayAll(Sentences s);
 
-    /** Something of all that there is: three PAYERS, a TOWN, prices, SEEN, a BOOK, THE IMAGE, an act, TAPES, a TEXT. */
+    /** Something of all that there is, so that a call that changes what it should not is seen. */
     static void rich(Run x) {
         x.is(0, "payer(6, 3)", "row(0, 0, 4)", "row(0, 1, 1)");
         x.is(1, "payer(3, 4)");

@@ -90,8 +90,8 @@ final class Payers extends Group {
             x.still(FULL, "payer(0, 0)", "payer(6, 9)");
             x.is(4, "count(0)");
         });
-        s.says("Answers: NONE (-1) no such number; BAD (-2) a number is not as told; STATE (-3) as told; FULL (-4);"
-                + " the first that a call's words name.", x -> {
+        s.says("Answers: NONE (-1) no such number; BAD (-2) a number is not as told; STATE (-3) as told; FULL"
+                + " (-4); the first that a call's words name.", x -> {
             x.is(0, "payer(0, 0)");
             x.is(1, "payer(6, 0)");
             x.still(NONE, "payer(7, 10)", "row(0, 4, 6)");
@@ -111,8 +111,9 @@ final class Payers extends Group {
             rich(x);
             x.still(NONE, "payer(7, 0)", "purse(3, 0, 1)", "till(6, 1)", "row(0, 4, 1)", "pay(3, 1)", "book(3, 1)",
                     "tape(6, 0, 1)", "item(6, 0, 1)", "shift(0, 0, 6, 0, 1)");
-            x.still(BAD, "payer(0, 10)", "purse(0, 0, 100)", "till(0, 100)", "row(0, 0, 6)", "feed(128)", "pay(0, 200)",
-                    "price(0)", "see(0, 0)", "book(0, 0)", "tape(0, 5, 1)", "heaviest(0, 9)", "taken(0, 7)");
+            x.still(BAD, "payer(0, 10)", "purse(0, 0, 100)", "till(0, 100)", "row(0, 0, 6)", "feed(128)",
+                    "pay(0, 200)", "price(0)", "see(0, 0)", "book(0, 0)", "tape(0, 5, 1)", "heaviest(0, 9)",
+                    "taken(0, 7)");
             x.still(STATE, "row(1, 0, 0)", "pay(0, 199)");
             x.still(PLACE, "item(0, 3, 1)", "shift(0, 2, 0, 0, 2)");
             x.still(CAST, "shift(0, 0, 1, 0, 1)", "judge(1, 0)", "taken(1, 4)");
@@ -123,8 +124,8 @@ final class Payers extends Group {
 
     private void ofWhat(Sentences s) {
         s.promise(3);
-        s.says("Of a PAYER what 0 KIND, 1 v, 2 PAID, 3 WEIGHT, 4 COINS of its PURSE, 10 and s COUNTS,"
-                + " 20 and s KEPT of SORT s.", x -> {
+        s.says("Of a PAYER what 0 KIND, 1 v, 2 PAID, 3 WEIGHT, 4 COINS of its PURSE, 10 and s COUNTS, 20 and s"
+                + " KEPT of SORT s.", x -> {
             x.is(0, "payer(5, 8)");
             x.purse(0, 1, 2, 3, 4, 5, 6);
             x.town(0, "keep 7 s=0;keep 9 s=5");

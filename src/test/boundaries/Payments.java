@@ -119,7 +119,8 @@ final class Payments extends Group {
             x.is(0, "till(0, 1)");
             x.back(0, 19, 1, 0, 0, 0, 0, 0);
         });
-        s.says("greatest SORT first, of each as many as there are, and as are worth no more than what is left to give", x -> {
+        s.says("greatest SORT first, of each as many as there are, and as are worth no more than what is"
+                + " left to give", x -> {
             x.is(0, "payer(0, 0)", "purse(0, 3, 1)");
             x.back(0, 10, 0, 0, 0, 0, 0, 0);
             x.back(0, 9, 1, 0, 0, 0, 0, 0);
@@ -230,15 +231,20 @@ final class Payments extends Group {
             x.town(0, "heft 9 s=1;heft 4 s=2;heft 9 s=3");
             x.hand(0, 2, 0, 1, 0, 0, 0, 0);
             x.hand(1, 10, 0, 0, 0, 1, 0, 0);
+            // one 50 is lighter than what it is worth
+            x.purse(1, 1, 0, 0, 1, 2, 0);
+            x.town(1, "heft 1 s<6");
+            x.hand(1, 1, 1, 0, 0, 1, 2, 0);
+            x.back(1, 1, 0, 0, 0, 0, 0, 1);
             // what comes back is heavier than what is handed over
             x.purse(0, 1, 0, 0, 1, 0, 1);
-            x.town(1, "heft 1 w>2;heft 99 s=4");
+            x.town(2, "heft 1 w>2;heft 99 s=4");
             x.hand(0, 10, 0, 0, 0, 1, 0, 0);
             x.hand(0, 11, 1, 0, 0, 1, 0, 0);
             x.hand(0, 12, 0, 0, 0, 0, 0, 1);
         });
-        s.says("Of all HANDS that PAY a price a PAYER hands over (of several the first as rows:"
-                + " the fewest of SORT 0, then of SORT 1, and so on) that:", x -> {
+        s.says("Of all HANDS that PAY a price a PAYER hands over (of several the first as rows: the fewest of"
+                + " SORT 0, then of SORT 1, and so on) that:", x -> {
             x.is(0, "payer(4, 0)", "purse(0, 5, 2)");
             x.hand(0, 50, 0, 0, 0, 0, 0, 1);
             x.town(0, "heft 0 s=0");
@@ -271,7 +277,8 @@ final class Payments extends Group {
             x.hand(3, 10, 0, 0, 2, 0, 0, 0);
             x.hand(3, 50, 0, 0, 0, 0, 0, 1);
         });
-        s.says("TOLD: as PAYER, but no coin of the SORT that its ROW (four SORTS; 0 at first) tells at PAID modulo 4.", x -> {
+        s.says("TOLD: as PAYER, but no coin of the SORT that its ROW (four SORTS; 0 at first) tells at"
+                + " PAID modulo 4.", x -> {
             x.is(0, "payer(6, 3)");
             x.purse(0, 9, 9, 9, 9, 9, 9);
             x.hand(0, 1, 0, 1, 0, 0, 0, 0);
@@ -301,14 +308,14 @@ final class Payments extends Group {
             x.still(1, "would(0, 51, 15)");
             x.hand(0, 51, 0, 0, 0, 0, 1, 1);
             x.back(0, 51, 0, 2, 1, 1, 0, 0);
-            x.still(NONE, "would(0, 51, MIN)", "would(0, 51, -1)", "would(0, 51, 3)", "would(0, 51, 9)", "would(0, 51, 16)",
-                    "would(0, 51, 19)", "would(0, 51, 26)", "would(0, 51, MAX)");
+            x.still(NONE, "would(0, 51, MIN)", "would(0, 51, -1)", "would(0, 51, 3)", "would(0, 51, 9)",
+                    "would(0, 51, 16)", "would(0, 51, 19)", "would(0, 51, 26)", "would(0, 51, MAX)");
         });
-        s.says("WOULD of a PAYER and a price (1 .. 199): how many of a SORT it hands over, how many it gets BACK; SUM;"
-                + " COINS of its PURSE behind it; WEIGHT of that; -5 each, if no HAND PAYS.", x -> {
+        s.says("WOULD of a PAYER and a price (1 .. 199): how many of a SORT it hands over, how many it gets BACK;"
+                + " SUM; COINS of its PURSE behind it; WEIGHT of that; -5 each, if no HAND PAYS.", x -> {
             x.is(0, "payer(0, 0)");
-            x.still(NOBODY, "would(0, 1, 0)", "would(0, 1, 1)", "would(0, 1, 2)", "would(0, 1, 10)", "would(0, 1, 15)",
-                    "would(0, 1, 20)", "would(0, 199, 25)");
+            x.still(NOBODY, "would(0, 1, 0)", "would(0, 1, 1)", "would(0, 1, 2)", "would(0, 1, 10)",
+                    "would(0, 1, 15)", "would(0, 1, 20)", "would(0, 199, 25)");
             x.purse(0, 2, 2, 2, 2, 2, 2);
             x.is(1, "would(0, 1, 0)");
             x.is(11, "would(0, 1, 1)");
@@ -327,21 +334,23 @@ final class Payments extends Group {
         s.says("NONE", x -> {
             x.still(NONE, "would(0, 1, 0)", "would(0, 0, 0)");
             x.is(0, "payer(0, 0)");
-            x.still(NONE, "would(-1, 1, 0)", "would(1, 1, 0)", "would(1, 200, 0)", "would(0, 200, 3)", "would(0, 0, 26)");
+            x.still(NONE, "would(-1, 1, 0)", "would(1, 1, 0)", "would(1, 200, 0)", "would(0, 200, 3)",
+                    "would(0, 0, 26)");
         });
         s.says("BAD.", x -> {
             x.is(0, "payer(0, 0)", "purse(0, 0, 9)");
-            x.still(BAD, "would(0, 0, 0)", "would(0, 200, 0)", "would(0, 0, 15)", "would(0, 200, 25)", "would(0, MIN, 2)",
-                    "would(0, MAX, 2)", "would(0, -1, 1)");
+            x.still(BAD, "would(0, 0, 0)", "would(0, 200, 0)", "would(0, 0, 15)", "would(0, 200, 25)",
+                    "would(0, MIN, 2)", "would(0, MAX, 2)", "would(0, -1, 1)");
             x.is(1, "would(0, 1, 0)");
             x.is(NOBODY, "would(0, 199, 0)");
         });
         s.says("All that follows is asked, goes on from how all is, and changes nothing.", x -> {
             rich(x);
-            x.changesNothing("would(0, 13, 0)", "would(2, 60, 25)", "least(1, 9, 0)", "least(2, 9, 1)", "exactly(1)",
-                    "behind(0, 0)", "behind(1, 2)", "who()", "next(2)", "shortOf(0)", "more(1, 20, 3)", "heaviest(0, 8)",
-                    "fits()", "odds(1, 0)", "odds(2, 1)", "mean(20, 0)", "looked()", "judge(0, 0)", "taken(0, 3)",
-                    "trace(0)", "read(1, 1)", "of(0, 20)", "told(20)", "count(6)");
+            x.changesNothing("would(0, 13, 0)", "would(2, 60, 25)", "least(1, 9, 0)", "least(2, 9, 1)",
+                    "exactly(1)", "behind(0, 0)", "behind(1, 2)", "who()", "next(2)", "shortOf(0)",
+                    "more(1, 20, 3)", "heaviest(0, 8)", "fits()", "odds(1, 0)", "odds(2, 1)", "mean(20, 0)",
+                    "looked()", "judge(0, 0)", "taken(0, 3)", "trace(0)", "read(1, 1)", "of(0, 20)", "told(20)",
+                    "count(6)");
             x.is(1, "of(0, 2)");
             x.is(50, "would(1, 22, 0)");
             x.is(1, "pay(1, 22)");
@@ -360,8 +369,8 @@ final class Payments extends Group {
             x.still(0, "least(0, 1, 0)", "least(0, 1, 1)");
             x.still(NOBODY, "least(0, 2, 0)", "least(0, 2, 1)");
         });
-        s.says("LIGHTEST of a PAYER and a price: the least WEIGHT of its PURSE behind a payment by any HAND that PAYS"
-                + " (a KEEPER, a TOLD one may hand over any SORT here; -5: none PAYS).", x -> {
+        s.says("LIGHTEST of a PAYER and a price: the least WEIGHT of its PURSE behind a payment by any HAND that"
+                + " PAYS (a KEEPER, a TOLD one may hand over any SORT here; -5: none PAYS).", x -> {
             x.is(0, "payer(3, 4)");
             x.is(1, "payer(6, 0)");
             x.purse(0, 0, 0, 0, 0, 1, 1);
@@ -392,11 +401,13 @@ final class Payments extends Group {
         s.says("NONE", x -> {
             x.still(NONE, "least(0, 1, 0)", "least(0, 0, 0)");
             x.is(0, "payer(0, 0)");
-            x.still(NONE, "least(-1, 1, 0)", "least(1, 1, 0)", "least(1, 0, 0)", "least(0, 0, 2)", "least(0, 200, -1)");
+            x.still(NONE, "least(-1, 1, 0)", "least(1, 1, 0)", "least(1, 0, 0)", "least(0, 0, 2)",
+                    "least(0, 200, -1)");
         });
         s.says("BAD.", x -> {
             x.is(0, "payer(0, 0)", "purse(0, 0, 1)");
-            x.still(BAD, "least(0, 0, 0)", "least(0, 200, 1)", "least(0, -1, 0)", "least(0, MIN, 0)", "least(0, MAX, 1)");
+            x.still(BAD, "least(0, 0, 0)", "least(0, 200, 1)", "least(0, -1, 0)", "least(0, MIN, 0)",
+                    "least(0, MAX, 1)");
             x.is(0, "least(0, 1, 0)");
             x.is(NOBODY, "least(0, 199, 0)");
         });
@@ -410,7 +421,8 @@ final class Payments extends Group {
             x.purse(0, 2, 2, 2, 2, 2, 2);
             x.still(60, "exactly(0)");
         });
-        s.says("EXACTLY of a PAYER: how many prices 1 .. 60 are the SUM of some HAND that PAYS them (any SORT, too).", x -> {
+        s.says("EXACTLY of a PAYER: how many prices 1 .. 60 are the SUM of some HAND that PAYS them"
+                + " (any SORT, too).", x -> {
             x.is(0, "payer(3, 0)", "purse(0, 0, 1)");
             x.still(1, "exactly(0)");
             // 10, 20 and so on, 60; then 1, 11 and so on, 51 as well, 61 no more

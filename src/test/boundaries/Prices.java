@@ -3,6 +3,7 @@ final class Prices extends Group {
     void sayAll(Sentences s) {
         price(s);
         behind(s);
+        behindWithTown(s);
         who(s);
         next(s);
         shortOf(s);
@@ -69,8 +70,8 @@ final class Prices extends Group {
             x.is(0, "behind(0, 0)", "behind(0, 1)", "behind(0, 2)");
             x.still(NONE, "behind(1, 0)", "behind(-1, 2)", "behind(4, 0)", "behind(MIN, 0)", "behind(MAX, 0)");
         });
-        s.says("BEHIND of a PAYER: if it pays these one behind the other: WEIGHT, COINS of its PURSE then;"
-                + " how many it has paid (those that it can not are passed over).", x -> {
+        s.says("BEHIND of a PAYER: if it pays these one behind the other: WEIGHT, COINS of its PURSE then; how"
+                + " many it has paid (those that it can not are passed over).", x -> {
             x.is(0, "payer(0, 0)");
             x.purse(0, 1, 1, 1, 0, 0, 1);
             x.is(0, "behind(0, 2)");
@@ -103,6 +104,26 @@ final class Prices extends Group {
         });
     }
 
+    private void behindWithTown(Sentences s) {
+        s.promise(15);
+        s.says("how many it has paid (those that it can not are passed over).", x -> {
+            x.is(0, "payer(0, 0)", "purse(0, 0, 9)");
+            x.is(1, "price(1)");
+            x.is(2, "price(1)");
+            x.is(3, "price(1)");
+            x.is(3, "behind(0, 2)");
+            x.town(0, "keep 9 d=1");
+            x.is(1, "behind(0, 2)");
+            x.is(8, "behind(0, 1)");
+            x.town(1, "keep 9 d=2");
+            x.is(2, "behind(0, 2)");
+            x.is(7, "behind(0, 1)");
+            x.town(2, "keep 10 d=0");
+            x.is(0, "behind(0, 2)");
+            x.is(9, "behind(0, 1)");
+        });
+    }
+
     private void who(Sentences s) {
         s.promise(16);
         s.says("WHO; -5.", x -> {
@@ -114,8 +135,8 @@ final class Prices extends Group {
             x.is(0, "purse(0, 0, 1)");
             x.still(0, "who()");
         });
-        s.says("WHO: of PAYERS who, each alone from now on, can pay all of the ROW, one behind the other, the one with the"
-                + " fewest COINS of its PURSE then (of several the first; -5: nobody can).", x -> {
+        s.says("WHO: of PAYERS who, each alone from now on, can pay all of the ROW, one behind the other, the one"
+                + " with the fewest COINS of its PURSE then (of several the first; -5: nobody can).", x -> {
             for (int p = 0; p < 4; p++) {
                 x.is(p, "payer(0, 0)");
             }
@@ -161,8 +182,8 @@ final class Prices extends Group {
             x.is(0, "payer(0, 0)");
             x.still(NONE, "next(1)", "next(-1)", "next(4)", "next(MIN)", "next(MAX)");
         });
-        s.says("NEXT of a PAYER: the price (1 .. 30) by which COINS of its PURSE behind it are fewest"
-                + " (of several the least; -5: none).", x -> {
+        s.says("NEXT of a PAYER: the price (1 .. 30) by which COINS of its PURSE behind it are fewest (of several"
+                + " the least; -5: none).", x -> {
             x.is(0, "payer(0, 0)");
             x.purse(0, 1, 0, 0, 0, 0, 0);
             x.is(1, "next(0)");
@@ -195,8 +216,8 @@ final class Prices extends Group {
             x.is(0, "payer(0, 0)");
             x.still(NONE, "shortOf(1)", "shortOf(-1)", "shortOf(4)", "shortOf(MIN)", "shortOf(MAX)");
         });
-        s.says("SHORT of a PAYER: the least price (1 .. 60) that it can not pay, though what its PURSE is worth is as much or"
-                + " more (-5: none).", x -> {
+        s.says("SHORT of a PAYER: the least price (1 .. 60) that it can not pay, though what its PURSE is worth"
+                + " is as much or more (-5: none).", x -> {
             x.is(0, "payer(0, 0)", "purse(0, 0, 2)");
             x.is(NOBODY, "shortOf(0)");
             x.is(2, "purse(0, 0, 3)");
@@ -218,9 +239,9 @@ final class Prices extends Group {
 
     private void more(Sentences s) {
         s.promise(19);
-        s.says("MORE of a PAYER, a price and a SORT: WEIGHT of its PURSE behind its payment, were COUNTS of that SORT in"
-                + " THE TILL 1 more (99 at most), less that as they are"
-                + " (may be below 0; 0, if it can not pay one way or the other).", x -> {
+        s.says("MORE of a PAYER, a price and a SORT: WEIGHT of its PURSE behind its payment, were COUNTS of that"
+                + " SORT in THE TILL 1 more (99 at most), less that as they are (may be below 0; 0, if it can not"
+                + " pay one way or the other).", x -> {
             x.is(0, "payer(0, 0)");
             x.purse(0, 1, 1, 0, 0, 0, 0);
             x.is(9, "till(0, 97)");
@@ -235,6 +256,15 @@ final class Prices extends Group {
             x.till(9, 9, 9, 9, 0, 9);
             x.still(6 - 5 - 5, "more(0, 30, 4)");
             x.still(0, "more(0, 30, 3)", "more(0, 30, 5)");
+        });
+        s.says("were COUNTS of that SORT in THE TILL 1 more", x -> {
+            // with a 20 in the till it keeps its own
+            x.is(0, "payer(0, 0)");
+            x.town(0, "keep 1 s=4&t>0");
+            x.purse(0, 0, 0, 0, 0, 1, 1);
+            x.till(9, 9, 9, 9, 0, 9);
+            x.still(6 + 6 + 5 - 7, "more(0, 20, 4)");
+            x.still(0, "more(0, 20, 3)");
         });
         s.says("0, if it can not pay one way or the other", x -> {
             x.is(0, "payer(0, 0)");
@@ -259,7 +289,8 @@ final class Prices extends Group {
         s.says("MORE. -100001: NONE; -100002: BAD.", x -> {
             x.still(-100001, "more(0, 0, 0)");
             x.is(0, "payer(0, 0)");
-            x.still(-100002, "more(0, 0, 0)", "more(0, 200, 5)", "more(0, -1, 0)", "more(0, MIN, 0)", "more(0, MAX, 0)");
+            x.still(-100002, "more(0, 0, 0)", "more(0, 200, 5)", "more(0, -1, 0)", "more(0, MIN, 0)",
+                    "more(0, MAX, 0)");
             x.is(0, "more(0, 1, 0)", "more(0, 199, 0)");
         });
     }
@@ -275,15 +306,18 @@ final class Prices extends Group {
         s.says("NONE", x -> {
             x.still(NONE, "heaviest(0, 1)", "heaviest(0, 0)", "heaviest(-1, 9)");
             x.is(0, "payer(0, 0)");
-            x.still(NONE, "heaviest(1, 1)", "heaviest(-1, 1)", "heaviest(4, 9)", "heaviest(MIN, 1)", "heaviest(MAX, 1)");
+            x.still(NONE, "heaviest(1, 1)", "heaviest(-1, 1)", "heaviest(4, 9)", "heaviest(MIN, 1)",
+                    "heaviest(MAX, 1)");
         });
         s.says("BAD: n.", x -> {
             x.is(0, "payer(0, 0)");
-            x.still(BAD, "heaviest(0, 0)", "heaviest(0, 9)", "heaviest(0, -1)", "heaviest(0, MIN)", "heaviest(0, MAX)");
+            x.still(BAD, "heaviest(0, 0)", "heaviest(0, 9)", "heaviest(0, -1)", "heaviest(0, MIN)",
+                    "heaviest(0, MAX)");
             x.is(0, "heaviest(0, 1)", "heaviest(0, 8)");
         });
-        s.says("HEAVIEST of a PAYER and n (1 .. 8): if it pays the prices 7, 14, 21 and so on, n of them, one behind the other"
-                + " (those that it can not are passed over): the greatest WEIGHT of its PURSE ahead of all, or behind any.", x -> {
+        s.says("HEAVIEST of a PAYER and n (1 .. 8): if it pays the prices 7, 14, 21 and so on, n of them, one"
+                + " behind the other (those that it can not are passed over): the greatest WEIGHT of its PURSE"
+                + " ahead of all, or behind any.", x -> {
             // of 7 to 56 the till lets 56 alone be paid, and gives back two 2
             x.is(0, "payer(0, 0)");
             x.purse(0, 0, 0, 0, 1, 0, 1);
@@ -292,10 +326,15 @@ final class Prices extends Group {
             x.town(0, "heft 9 s=1");
             x.is(0, "heaviest(0, 1)", "heaviest(0, 7)");
             x.is(18, "heaviest(0, 8)");
-            // 7 alone: 2 and 1 come back; behind 14 they are handed over again
+            // 7 by 10: 2 and 1 come back; by 14 they are handed over again
             x.till(1, 1, 0, 0, 0, 0);
             x.purse(0, 1, 0, 0, 2, 0, 0);
             x.is(9, "heaviest(0, 1)", "heaviest(0, 2)", "heaviest(0, 8)");
+            // at PAID 0, which passing over does not change, it hands over no 10
+            x.is(1, "payer(6, 0)");
+            x.is(0, "row(1, 0, 3)", "purse(1, 3, 1)", "heaviest(1, 1)", "heaviest(1, 8)", "row(1, 1, 3)");
+            x.is(3, "row(1, 0, 0)");
+            x.is(9, "heaviest(1, 1)");
         });
     }
 }

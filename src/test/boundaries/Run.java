@@ -59,7 +59,8 @@ final class Run {
             other.answer(change);
         }
         other.answer("undo()");
-        compare(String.join(", ", changes) + " and undo() changed something: ", View.of(calls.again()), View.of(other));
+        compare(String.join(", ", changes) + " and undo() changed something: ", View.of(calls.again()),
+                View.of(other));
     }
 
     private void compare(String what, List<String> want, List<String> got) {

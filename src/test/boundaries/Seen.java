@@ -68,7 +68,8 @@ final class Seen extends Group {
             x.is(0, "purse(0, 0, 1)");
             x.still(9, "fits()");
         });
-        s.says("FITS: those PAYERS, as bits, of whose payment of each price (each alone, from now) that is so.", x -> {
+        s.says("FITS: those PAYERS, as bits, of whose payment of each price (each alone, from"
+                + " now) that is so.", x -> {
             x.is(0, "payer(0, 0)", "purse(0, 0, 2)");
             x.is(1, "payer(2, 0)");
             x.is(0, "purse(1, 1, 2)");
@@ -103,10 +104,11 @@ final class Seen extends Group {
         s.says("NO.", x -> {
             x.still(NO, "odds(0, 0)", "odds(-1, 0)");
             x.is(0, "payer(0, 0)");
-            x.still(NO, "odds(1, 0)", "odds(-1, 1)", "odds(4, 0)", "odds(MIN, 0)", "odds(MAX, 0)", "odds(0, 2)", "odds(1, 2)");
+            x.still(NO, "odds(1, 0)", "odds(-1, 1)", "odds(4, 0)", "odds(MIN, 0)", "odds(MAX, 0)", "odds(0, 2)",
+                    "odds(1, 2)");
         });
-        s.says("ODDS of a PAYER: if the price is any of 1 .. 20, each alike likely: how likely it can pay:"
-                + " a fraction in lowest terms.", x -> {
+        s.says("ODDS of a PAYER: if the price is any of 1 .. 20, each alike likely: how likely it can pay: a"
+                + " fraction in lowest terms.", x -> {
             x.is(0, "payer(0, 0)", "odds(0, 0)");
             x.is(1, "odds(0, 1)");
             x.till(0, 0, 0, 0, 0, 0);
@@ -169,7 +171,8 @@ final class Seen extends Group {
 
     private void book(Sentences s) {
         s.promise(25);
-        s.says("A row comes to the BOOK: how many there are (payer -1: it is empty then, 0, whatever the other is).", x -> {
+        s.says("A row comes to the BOOK: how many there are (payer -1: it is empty then, 0, whatever"
+                + " the other is).", x -> {
             x.is(0, "payer(0, 0)", "book(-1, 0)", "count(4)");
             x.is(1, "book(0, 1)", "count(4)");
             x.is(2, "book(0, 199)");
@@ -184,7 +187,8 @@ final class Seen extends Group {
             x.still(NONE, "book(0, 1)", "book(-2, 1)");
             x.is(0, "payer(0, 0)");
             x.is(1, "book(0, 1)");
-            x.still(NONE, "book(1, 1)", "book(-2, 1)", "book(4, 1)", "book(MIN, 1)", "book(MAX, 1)", "book(1, 0)", "book(-2, 200)");
+            x.still(NONE, "book(1, 1)", "book(-2, 1)", "book(4, 1)", "book(MIN, 1)", "book(MAX, 1)", "book(1, 0)",
+                    "book(-2, 200)");
             for (int n = 2; n <= 8; n++) {
                 x.is(n, "book(0, 1)");
             }
@@ -222,8 +226,8 @@ final class Seen extends Group {
             x.is(0, "purse(0, 0, 1)");
             x.still(NOBODY, "looked()");
         });
-        s.says("A BOOK told by hand: PAYERS and prices (8 at most), one behind the other from now on:"
-                + " LOOKED at: the first that can not be paid (-5: none).", x -> {
+        s.says("A BOOK told by hand: PAYERS and prices (8 at most), one behind the other from now on: LOOKED at:"
+                + " the first that can not be paid (-5: none).", x -> {
             x.is(0, "payer(0, 0)", "purse(0, 0, 7)");
             for (int n = 1; n <= 8; n++) {
                 x.is(n, "book(0, 1)");

@@ -32,12 +32,14 @@ final class Tapes extends Group {
             x.is(100, "judge(0, 0)", "judge(5, 0)");
         });
         s.says("CAST: it is no row of bytes.", x -> {
-            x.is(1, "tape(0, 0, 6)", "tape(1, 1, 6)", "tape(2, 2, 6)", "tape(3, 3, 6)", "tape(4, 4, 6)", "tape(5, 1, 0)");
-            x.still(CAST, "judge(1, 0)", "judge(2, 0)", "judge(3, 0)", "judge(4, 0)", "judge(5, 0)", "judge(1, -1)", "judge(4, 6)");
+            x.is(1, "tape(0, 0, 6)", "tape(1, 1, 6)", "tape(2, 2, 6)", "tape(3, 3, 6)", "tape(4, 4, 6)",
+                    "tape(5, 1, 0)");
+            x.still(CAST, "judge(1, 0)", "judge(2, 0)", "judge(3, 0)", "judge(4, 0)", "judge(5, 0)", "judge(1, -1)",
+                    "judge(4, 6)");
             x.is(0, "judge(0, 0)");
         });
-        s.says("THE TILL told by a row of bytes, from a place on, SORT by SORT, is JUDGED: the first that is otherwise; -5: none,"
-                + " or there is none to look at;", x -> {
+        s.says("THE TILL told by a row of bytes, from a place on, SORT by SORT, is JUDGED: the first that is"
+                + " otherwise; -5: none, or there is none to look at;", x -> {
             x.is(1, "tape(0, 0, 6)");
             x.till(0, 99, 3, 4, 5, 0);
             int[] till = {0, 99, 3, 4, 5, 0};
@@ -52,8 +54,8 @@ final class Tapes extends Group {
             x.is(1, "item(0, 0, 256)");
             x.is(1, "judge(0, 0)");
         });
-        s.says("100 and how many were looked at, if the row ends ahead of that"
-                + " (or the place is below 0, or the TAPE holds nothing).", x -> {
+        s.says("100 and how many were looked at, if the row ends ahead of that (or the place is below 0, or the"
+                + " TAPE holds nothing).", x -> {
             x.still(100, "judge(0, 0)", "judge(0, -1)", "judge(0, MAX)");
             x.is(1, "tape(0, 0, 0)");
             x.still(100, "judge(0, 0)", "judge(0, -1)", "judge(0, 1)");
@@ -111,7 +113,8 @@ final class Tapes extends Group {
             x.still(STATE, "undo()");
             x.is(1, "image()", "undo()");
         });
-        s.says("THE IMAGE: PAYERS with all that is theirs, THE TILL, the ROW of prices, SEEN, the BOOK, which TOWN holds.", x -> {
+        s.says("THE IMAGE: PAYERS with all that is theirs, THE TILL, the ROW of prices, SEEN, the BOOK,"
+                + " which TOWN holds.", x -> {
             rich(x);
             x.is(3, "image()");
             x.undoes("payer(5, 1)", "purse(3, 5, 9)", "pay(3, 1)");
@@ -126,6 +129,20 @@ final class Tapes extends Group {
             x.undoes("book(0, 8)");
             x.undoes("book(-1, 0)", "book(2, 199)");
             x.undoes("undo()");
+        });
+        s.says("SEEN, the BOOK, which TOWN holds.", x -> {
+            // what the rows hold, not how many they are
+            x.is(0, "payer(0, 0)", "purse(0, 0, 2)");
+            x.is(1, "see(1, 1)", "book(0, 2)", "price(2)", "image()");
+            x.is(0, "see(-1, 0)", "book(-1, 0)", "price(-1)");
+            x.is(1, "see(2, 1)", "book(0, 5)", "price(5)");
+            x.is(0, "fits()", "looked()", "behind(0, 2)");
+            x.is(1, "undo()", "fits()", "behind(0, 2)");
+            x.is(NOBODY, "looked()");
+            x.is(0, "see(-1, 0)");
+            x.is(1, "see(1, 2)");
+            x.is(0, "fits()");
+            x.is(1, "undo()", "fits()");
         });
         s.says("which TOWN holds", x -> {
             x.is(0, "image()");
@@ -160,8 +177,8 @@ final class Tapes extends Group {
             x.is(12, "act(1, 2, 10)");
         });
         s.says("0, and no TRACE then: no such PAYER, act.", x -> {
-            String[] refused = {"act(0, -1, 5)", "act(0, 3, 5)", "act(0, MIN, 5)", "act(0, MAX, 5)", "act(1, 0, 5)", "act(-1, 0, 5)",
-                "act(4, 2, 5)", "act(MAX, 1, 5)"};
+            String[] refused = {"act(0, -1, 5)", "act(0, 3, 5)", "act(0, MIN, 5)", "act(0, MAX, 5)", "act(1, 0, 5)",
+                    "act(-1, 0, 5)", "act(4, 2, 5)", "act(MAX, 1, 5)"};
             x.still(0, refused);
             x.is(0, "payer(0, 0)");
             for (String call : refused) {
@@ -204,14 +221,16 @@ final class Tapes extends Group {
 
     private void bodies(Sentences s) {
         s.promise(30);
-        body(s, "BODIES: PAYER: 10 counts: x + i. 11 hands: counts(x) - v. 12 tells: hands(x) * 2.", PAYER, 11, 6, 12);
+        body(s, "BODIES: PAYER: 10 counts: x + i. 11 hands: counts(x) - v. 12 tells:"
+                + " hands(x) * 2.", PAYER, 11, 6, 12);
         body(s, "EXACT: 20 hands: super.hands(x) ^ 6.", EXACT, 11, 0, 0);
         body(s, "ROUGH: 30 counts: super.counts(x * 3).", ROUGH, 31, 26, 52);
         body(s, "KEEPER: 40 tells: super.tells(x) + hands(1).", KEEPER, 11, 6, 12 - 3);
-        body(s, "LIGHT: 50 counts: -super.counts(x). 51 hands: super.hands(x + 1).", LIGHT, -11, -17 ^ 6, (-17 ^ 6) * 2);
+        body(s, "LIGHT: 50 counts: -super.counts(x). 51 hands:"
+                + " super.hands(x + 1).", LIGHT, -11, -17 ^ 6, (-17 ^ 6) * 2);
         body(s, "WILD: 60 tells: super.tells(x - i).", WILD, 31, 26, (28 - 5) * 2);
-        body(s, "TOLD: 70 hands: super.hands(x) + super.counts(2). 71 counts: super.counts(x) ^ v.", TOLD, 14, 9 + 3,
-                24 + (2 + 3));
+        body(s, "TOLD: 70 hands: super.hands(x) + super.counts(2). 71 counts:"
+                + " super.counts(x) ^ v.", TOLD, 14, 9 + 3, 24 + (2 + 3));
     }
 
     /** The TRACES of the three ACTS of a KIND. */
@@ -244,15 +263,17 @@ final class Tapes extends Group {
             x.still(NONE, "trace(2)", "trace(3)", "trace(19)", "trace(20)", "trace(-1)", "trace(MAX)");
             x.is(10, "trace(1)");
         });
-        s.says("THE TRACE: the numbers of the bodies that ran in the latest act(), as they began; the first 20 are kept.", x -> {
+        s.says("THE TRACE: the numbers of the bodies that ran in the latest act(), as they began; the first"
+                + " 20 are kept.", x -> {
             // no act has more than 12, so 20 are never reached
             traces(x, PAYER, new int[] {10}, new int[] {11, 10}, new int[] {12, 11, 10});
             traces(x, EXACT, new int[] {10}, new int[] {20, 11, 10}, new int[] {12, 20, 11, 10});
             traces(x, ROUGH, new int[] {30, 10}, new int[] {11, 30, 10}, new int[] {12, 11, 30, 10});
             traces(x, KEEPER, new int[] {10}, new int[] {11, 10}, new int[] {40, 12, 11, 10, 11, 10});
         });
-        s.says("counts(..) and so on: the body of its KIND, or, if that has none, of the next KIND above that has one;"
-                + " super.counts(..): so from the KIND above the body's on; all that stands in a body is done from the left on.", x -> {
+        s.says("counts(..) and so on: the body of its KIND, or, if that has none, of the next KIND above that has"
+                + " one; super.counts(..): so from the KIND above the body's on; all that stands in a body is"
+                + " done from the left on.", x -> {
             traces(x, LIGHT, new int[] {50, 10}, new int[] {51, 20, 11, 50, 10}, new int[] {12, 51, 20, 11, 50, 10});
             traces(x, WILD, new int[] {30, 10}, new int[] {11, 30, 10}, new int[] {60, 12, 11, 30, 10});
             traces(x, TOLD, new int[] {71, 10}, new int[] {70, 11, 71, 10, 10},
@@ -268,10 +289,11 @@ final class Tapes extends Group {
                 x.still(kind, "taken(" + kind + ", 0)", "taken(" + kind + ", " + kind + ")");
                 x.still(CAST, "taken(" + kind + ", 4)", "taken(" + kind + ", 5)", "taken(" + kind + ", 6)");
             }
-            x.is(CAST, "taken(0, 1)", "taken(0, 3)", "taken(1, 2)", "taken(2, 1)", "taken(3, 2)", "taken(1, 3)", "taken(3, 1)");
+            x.is(CAST, "taken(0, 1)", "taken(0, 3)", "taken(1, 2)", "taken(2, 1)", "taken(3, 2)", "taken(1, 3)",
+                    "taken(3, 1)");
         });
-        s.says("are of KINDS: 0 PAYER; 1 EXACT, 2 ROUGH, 3 KEEPER under PAYER; 4 LIGHT under EXACT; 5 WILD under ROUGH;"
-                + " 6 TOLD under KEEPER;", x -> {
+        s.says("are of KINDS: 0 PAYER; 1 EXACT, 2 ROUGH, 3 KEEPER under PAYER; 4 LIGHT under EXACT; 5 WILD under"
+                + " ROUGH; 6 TOLD under KEEPER;", x -> {
             for (int p = 0; p < 3; p++) {
                 x.is(p, "payer(" + (p + 4) + ", 0)");
                 for (int k = 0; k < 7; k++) {
@@ -317,7 +339,8 @@ final class Tapes extends Group {
 
     private void tape(Sentences s) {
         s.promise(34);
-        s.says("A TAPE becomes a row of n (0 .. 60) of a sort, all 0, or holds nothing (sort -1: n does not matter): 1.", x -> {
+        s.says("A TAPE becomes a row of n (0 .. 60) of a sort, all 0, or holds nothing (sort -1: n does"
+                + " not matter): 1.", x -> {
             x.is(1, "tape(0, 3, 60)", "item(0, 0, 7)", "item(0, 59, 7)");
             x.is(PLACE, "item(0, 60, 7)");
             x.is(1, "tape(0, 3, 1)");
@@ -341,7 +364,8 @@ final class Tapes extends Group {
         s.says("BAD: sort, n above 60", x -> {
             x.is(1, "tape(0, 2, 3)", "item(0, 1, 7)");
             x.still(BAD, "tape(0, -2, 1)", "tape(0, 5, 1)", "tape(0, MIN, 1)", "tape(0, MAX, 1)");
-            x.still(BAD, "tape(0, 0, 61)", "tape(0, 4, MAX)", "tape(0, 5, -1)", "tape(0, -2, -1)", "tape(0, 5, 61)");
+            x.still(BAD, "tape(0, 0, 61)", "tape(0, 4, MAX)", "tape(0, 5, -1)", "tape(0, -2, -1)",
+                    "tape(0, 5, 61)");
             x.is(7, "read(0, 1)");
             x.is(1, "tape(0, 4, 60)", "tape(0, 0, 60)");
         });
@@ -351,7 +375,8 @@ final class Tapes extends Group {
             x.is(7, "read(0, 1)");
             x.is(1, "tape(0, 0, 0)");
         });
-        s.says("TAPES 0 .. 5 hold nothing (at first), or a row of 0 bytes, 1 shorts, 2 ints, 3 longs, 4 booleans (items 0, 1).", x -> {
+        s.says("TAPES 0 .. 5 hold nothing (at first), or a row of 0 bytes, 1 shorts, 2 ints, 3 longs, 4 booleans"
+                + " (items 0, 1).", x -> {
             for (int t = 0; t < 6; t++) {
                 x.still(NOTHING, "item(" + t + ", 0, 0)");
                 x.is(NO, "read(" + t + ", 0)");
@@ -363,8 +388,8 @@ final class Tapes extends Group {
             }
             x.is(NOTHING, "item(5, 0, 0)");
         });
-        s.says("The host's refusals: NOTHING (-11): nothing is there; CAST (-12): another sort or KIND; PLACE (-13): no such place;"
-                + " SIZE (-14): a size below 0.", x -> {
+        s.says("The host's refusals: NOTHING (-11): nothing is there; CAST (-12): another sort or KIND; PLACE"
+                + " (-13): no such place; SIZE (-14): a size below 0.", x -> {
             x.still(-11, "item(0, 0, 1)", "taken(0, 0)", "shift(0, 0, 1, 0, 0)");
             x.is(1, "tape(0, 0, 1)", "tape(1, 1, 1)");
             x.is(0, "payer(0, 0)");
@@ -376,9 +401,11 @@ final class Tapes extends Group {
 
     private void item(Sentences s) {
         s.promise(35);
-        s.says("Item i of a TAPE becomes v (its lowest bits, as many as an item has; booleans: whether v is not 0): 1.", x -> {
-            String[] values = {"127", "128", "-128", "-129", "255", "256", "32767", "32768", "-32768", "-32769", "2147483647",
-                "2147483648", "-2147483648", "-2147483649", "4294967296", "" + Long.MAX_VALUE, "" + Long.MIN_VALUE, "0", "-1"};
+        s.says("Item i of a TAPE becomes v (its lowest bits, as many as an item has; booleans: whether v"
+                + " is not 0): 1.", x -> {
+            String[] values = {"127", "128", "-128", "-129", "255", "256", "32767", "32768", "-32768", "-32769",
+                    "2147483647", "2147483648", "-2147483648", "-2147483649", "4294967296", "" + Long.MAX_VALUE,
+                    "" + Long.MIN_VALUE, "0", "-1"};
             for (int sort = 0; sort < 5; sort++) {
                 x.is(1, "tape(" + sort + ", " + sort + ", 3)");
                 for (String value : values) {
@@ -402,7 +429,8 @@ final class Tapes extends Group {
         });
         s.says("PLACE.", x -> {
             x.is(1, "tape(0, 0, 0)", "tape(1, 1, 3)", "tape(2, 2, 60)");
-            x.still(PLACE, "item(0, 0, 1)", "item(0, -1, 1)", "item(1, -1, 1)", "item(1, 3, 1)", "item(1, MIN, 1)", "item(1, MAX, 1)");
+            x.still(PLACE, "item(0, 0, 1)", "item(0, -1, 1)", "item(1, -1, 1)", "item(1, 3, 1)", "item(1, MIN, 1)",
+                    "item(1, MAX, 1)");
             x.still(PLACE, "item(2, 60, 1)", "item(2, -1, 1)");
             x.is(1, "item(1, 0, 1)", "item(1, 2, 1)", "item(2, 0, 1)", "item(2, 59, 1)");
         });
@@ -417,7 +445,8 @@ final class Tapes extends Group {
             x.still(0, "read(5, 1)", "read(5, 58)");
         });
         s.says("NO: no such TAPE, nothing there, no such place.", x -> {
-            x.still(NO, "read(-1, 0)", "read(6, 0)", "read(MIN, 0)", "read(MAX, 0)", "read(0, 0)", "read(5, 0)", "read(0, -1)");
+            x.still(NO, "read(-1, 0)", "read(6, 0)", "read(MIN, 0)", "read(MAX, 0)", "read(0, 0)", "read(5, 0)",
+                    "read(0, -1)");
             x.is(1, "tape(0, 0, 0)", "tape(1, 1, 2)", "tape(2, 2, 60)", "item(1, 1, 1)");
             x.still(NO, "read(0, 0)", "read(1, -1)", "read(1, 2)", "read(1, MIN)", "read(1, MAX)", "read(2, 60)");
             x.is(0, "read(1, 0)", "read(2, 59)");
@@ -444,7 +473,8 @@ final class Tapes extends Group {
 
     private void shift(Sentences s) {
         s.promise(37);
-        s.says("n items of a TAPE from i on come to another one (or the same) from j on, as they all were before: n.", x -> {
+        s.says("n items of a TAPE from i on come to another one (or the same) from j on, as they all"
+                + " were before: n.", x -> {
             fill(x, 0, 1, 1, 2, 3, 4, 5);
             fill(x, 1, 1, 7, 8, 9);
             x.is(2, "shift(0, 3, 1, 1, 2)");
@@ -452,7 +482,8 @@ final class Tapes extends Group {
             x.is(3, "shift(1, 0, 0, 0, 3)");
             holds(x, 0, 7, 4, 5, 4, 5);
             holds(x, 1, 7, 4, 5);
-            x.still(0, "shift(0, 0, 1, 0, 0)", "shift(0, 5, 1, 3, 0)", "shift(1, 3, 0, 5, 0)", "shift(0, 2, 0, 2, 0)");
+            x.still(0, "shift(0, 0, 1, 0, 0)", "shift(0, 5, 1, 3, 0)", "shift(1, 3, 0, 5, 0)",
+                    "shift(0, 2, 0, 2, 0)");
             x.still(5, "shift(0, 0, 0, 0, 5)");
         });
         s.says("(or the same) from j on, as they all were before", x -> {
@@ -471,21 +502,23 @@ final class Tapes extends Group {
         s.says("NONE: tapes", x -> {
             fill(x, 0, 1, 1, 2);
             fill(x, 5, 1, 1, 2);
-            x.still(NONE, "shift(-1, 0, 0, 0, 1)", "shift(6, 0, 0, 0, 1)", "shift(0, 0, -1, 0, 1)", "shift(0, 0, 6, 0, 1)",
-                    "shift(MIN, 0, 0, 0, 1)", "shift(0, 0, MAX, 0, 1)", "shift(1, 0, 6, 0, 1)", "shift(6, 0, 1, -1, -1)");
+            x.still(NONE, "shift(-1, 0, 0, 0, 1)", "shift(6, 0, 0, 0, 1)", "shift(0, 0, -1, 0, 1)",
+                    "shift(0, 0, 6, 0, 1)", "shift(MIN, 0, 0, 0, 1)", "shift(0, 0, MAX, 0, 1)",
+                    "shift(1, 0, 6, 0, 1)", "shift(6, 0, 1, -1, -1)");
             x.is(2, "shift(0, 0, 5, 0, 2)", "shift(5, 0, 0, 0, 2)");
         });
         s.says("NOTHING", x -> {
             fill(x, 0, 1, 1, 2);
-            x.still(NOTHING, "shift(0, 0, 1, 0, 0)", "shift(1, 0, 0, 0, 0)", "shift(1, 0, 2, 0, 0)", "shift(1, -1, 1, 9, 9)",
-                    "shift(0, 9, 1, 9, 9)");
+            x.still(NOTHING, "shift(0, 0, 1, 0, 0)", "shift(1, 0, 0, 0, 0)", "shift(1, 0, 2, 0, 0)",
+                    "shift(1, -1, 1, 9, 9)", "shift(0, 9, 1, 9, 9)");
         });
         s.says("CAST: of unlike sorts", x -> {
             for (int sort = 0; sort < 5; sort++) {
                 x.is(1, "tape(" + sort + ", " + sort + ", 2)");
             }
             for (int sort = 0; sort < 4; sort++) {
-                x.still(CAST, "shift(" + sort + ", 0, " + (sort + 1) + ", 0, 1)", "shift(" + (sort + 1) + ", 0, " + sort + ", 0, 0)",
+                x.still(CAST, "shift(" + sort + ", 0, " + (sort + 1) + ", 0, 1)",
+                        "shift(" + (sort + 1) + ", 0, " + sort + ", 0, 0)",
                         "shift(" + sort + ", -1, " + (sort + 1) + ", 9, 9)");
             }
             x.is(1, "tape(5, 4, 2)", "shift(4, 0, 5, 0, 1)");
@@ -493,11 +526,14 @@ final class Tapes extends Group {
         s.says("PLACE: n, i or j is below 0, or beyond either's end.", x -> {
             fill(x, 0, 1, 1, 2, 3);
             fill(x, 1, 1, 4, 5);
-            x.still(PLACE, "shift(0, 0, 1, 0, -1)", "shift(0, -1, 1, 0, 1)", "shift(0, 0, 1, -1, 1)", "shift(0, -1, 1, -1, 0)");
-            x.still(PLACE, "shift(0, 0, 1, 0, 3)", "shift(0, 2, 1, 0, 2)", "shift(0, 0, 1, 1, 2)", "shift(0, 3, 1, 0, 1)",
-                    "shift(0, 0, 1, 2, 1)", "shift(1, 0, 0, 0, 3)", "shift(1, 1, 0, 0, 2)", "shift(0, 0, 0, 1, 3)");
-            x.still(PLACE, "shift(0, 4, 1, 0, 0)", "shift(0, 0, 1, 3, 0)", "shift(0, 1, 1, 0, MAX)", "shift(0, MAX, 1, 0, 1)",
-                    "shift(0, 0, 1, MAX, 1)", "shift(0, MAX, 1, MAX, MAX)", "shift(0, MIN, 1, MIN, MIN)", "shift(0, 0, 1, 0, MIN)");
+            x.still(PLACE, "shift(0, 0, 1, 0, -1)", "shift(0, -1, 1, 0, 1)", "shift(0, 0, 1, -1, 1)",
+                    "shift(0, -1, 1, -1, 0)");
+            x.still(PLACE, "shift(0, 0, 1, 0, 3)", "shift(0, 2, 1, 0, 2)", "shift(0, 0, 1, 1, 2)",
+                    "shift(0, 3, 1, 0, 1)", "shift(0, 0, 1, 2, 1)", "shift(1, 0, 0, 0, 3)", "shift(1, 1, 0, 0, 2)",
+                    "shift(0, 0, 0, 1, 3)");
+            x.still(PLACE, "shift(0, 4, 1, 0, 0)", "shift(0, 0, 1, 3, 0)", "shift(0, 1, 1, 0, MAX)",
+                    "shift(0, MAX, 1, 0, 1)", "shift(0, 0, 1, MAX, 1)", "shift(0, MAX, 1, MAX, MAX)",
+                    "shift(0, MIN, 1, MIN, MIN)", "shift(0, 0, 1, 0, MIN)");
             x.is(0, "shift(0, 3, 1, 2, 0)");
             x.is(2, "shift(0, 1, 1, 0, 2)");
             holds(x, 0, 1, 2, 3);

@@ -90,6 +90,13 @@ final class Towns extends Group {
             x.is(1, "told(0)", "count(1)");
             x.is(0, "count(5)");
             x.faultAt(0, "", "!", "\0", "\u007f");
+            // nothing is left behind of those that had a FAULT
+            for (int i = 0; i < 3; i++) {
+                x.feed("keep 1 " + "s=5|".repeat(23));
+                x.is(-10 - 99, "town()");
+            }
+            x.town(1, "heft 7 s=2|s=3");
+            x.hefts(0, 0, 7, 7, 0, 0);
             // the last byte of a full TEXT, and its end
             x.faultAt(99, "heft 1 " + "s=1|".repeat(23) + "|");
             x.faultAt(100, "heft 1 " + "s=1|".repeat(23) + "s");
@@ -114,6 +121,15 @@ final class Towns extends Group {
             x.faultAt(6, "most 1,most 1", "most 1 ;most 1", "most 1most 1");
             x.faultAt(63, TEN.substring(7) + ";");
             x.faultAt(69, TEN + ";", TEN + ";most 1", TEN + ";;");
+            // the tenth is as the others
+            x.is(0, "payer(0, 0)");
+            x.town(0, TEN.substring(7) + ";heft 5 s=3");
+            x.hefts(0, 0, 0, 5, 0, 0);
+            x.kept(0, 0, 0, 0, 0, 0, 0);
+            x.town(1, TEN.substring(7) + ";keep 5 s=3");
+            x.kept(0, 0, 0, 0, 5, 0, 0);
+            x.town(2, TEN.substring(7) + ";most 0");
+            x.is(0, "told(0)");
         });
         s.says("heft n E; keep n E; most n", x -> {
             x.reads("heft 1 s=1", "keep 1 s=1", "most 1", "most 1;keep 1 s=1;heft 1 s=1");
@@ -134,7 +150,8 @@ final class Towns extends Group {
             x.faultAt(10, "heft 1 s=1 ", "heft 1 s=1 ;most 1");
         });
         s.says("n 1 or 2 digits", x -> {
-            x.reads("heft 0 s=1", "heft 00 s=1", "heft 99 s=1", "keep 0 s=1", "keep 99 s=1", "most 0", "most 99", "most 09");
+            x.reads("heft 0 s=1", "heft 00 s=1", "heft 99 s=1", "keep 0 s=1", "keep 99 s=1", "most 0", "most 99",
+                    "most 09");
             x.faultAt(5, "heft x s=1", "keep -1 s=1", "most -1", "most /", "most :");
             x.faultAt(7, "heft 100 s=1", "keep 123 s=1", "most 100", "most 000", "heft 12");
             x.faultAt(6, "heft 1x s=1", "most 1/", "keep 1:");
@@ -148,27 +165,30 @@ final class Towns extends Group {
         s.says("E: T or T|E. T: F or F&T. F: !F, (E), or a TEST", x -> {
             x.town(0, "heft 1 s=0|s=1&s=2;heft 2 s=0&s=1|s=2;heft 4 !s=0&s<3;heft 8 !(s=0|s=1)");
             x.hefts(1, 4, 14, 8, 8, 8);
-            x.town(1, "heft 1 (s=0|s=1)&s=1;heft 2 !!s=3;heft 4 ((s=4));heft 8 s=5|s=5|s=5&s=0");
+            x.town(1, "heft 1 s=0|s<0;heft 2 !s<0&s<1;heft 4 s<0|s=5;heft 8 s<0&s=5");
+            x.hefts(3, 0, 0, 0, 0, 4);
+            x.town(2, "heft 1 (s=0|s=1)&s=1;heft 2 !!s=3;heft 4 ((s=4));heft 8 s=5|s=5|s=5&s=0");
             x.hefts(0, 1, 0, 2, 4, 8);
             x.reads("heft 1 s=1&s=1|s=1&s=1", "heft 1 !(!s=1)", "heft 1 (s=1)|(s=1)&!s=1");
             x.faultAt(7, "heft 1 &s=1", "heft 1 |s=1", "heft 1 )", "heft 1 ;");
             x.faultAt(8, "heft 1 (", "heft 1 ()", "heft 1 !", "heft 1 !)", "heft 1 (&", "heft 1 !|");
             x.faultAt(10, "heft 1 s=1)", "heft 1 s=1(", "heft 1 s=1!s=1", "heft 1 s=1s=1", "heft 1 s=1=1");
-            x.faultAt(11, "heft 1 s=1&", "heft 1 s=1|", "heft 1 s=1&&s=1", "heft 1 s=1||s=1", "heft 1 s=1&|", "heft 1 s=1|;",
-                    "heft 1 (s=1", "heft 1 (s=1;most 1");
+            x.faultAt(11, "heft 1 s=1&", "heft 1 s=1|", "heft 1 s=1&&s=1", "heft 1 s=1||s=1", "heft 1 s=1&|",
+                    "heft 1 s=1|;", "heft 1 (s=1", "heft 1 (s=1;most 1");
             x.faultAt(12, "heft 1 (s=1))");
         });
         s.says("a TEST: a letter, < or = or >, a number (1 or 2 digits)", x -> {
             x.reads("heft 1 s<1", "heft 1 w=0", "heft 1 t>99", "keep 1 p=00", "keep 1 k<7", "keep 1 d>6");
             x.faultAt(7, "heft 1 v=1", "heft 1 S=1", "heft 1 q=1", "heft 1 =1", "heft 1 1");
             x.faultAt(8, "heft 1 s", "heft 1 s1", "heft 1 s!1", "heft 1 ss=1", "heft 1 s;", "heft 1 s?1");
-            x.faultAt(9, "heft 1 s=", "heft 1 s<=1", "heft 1 s==1", "heft 1 s>x", "heft 1 s=-1", "heft 1 s=;", "heft 1 s=)");
+            x.faultAt(9, "heft 1 s=", "heft 1 s<=1", "heft 1 s==1", "heft 1 s>x", "heft 1 s=-1", "heft 1 s=;",
+                    "heft 1 s=)");
             x.faultAt(11, "heft 1 s=100", "heft 1 s=000", "heft 1 s=123");
         });
         s.says("A ( or ! within 4 others is none.", x -> {
-            x.reads("keep 1 ((((s=1))))", "keep 1 !!!!s=1", "keep 1 !(!(s=1))", "keep 1 (((!s=1)))", "keep 1 !!((s=1))",
-                    "keep 1 ((((s=1))))&((((s=1))))", "keep 1 !!!!s=1|!!!!s=1", "keep 1 ((((s=1)))&(((s=1))))",
-                    "keep 1 (!!!s=1&!!!s=1)");
+            x.reads("keep 1 ((((s=1))))", "keep 1 !!!!s=1", "keep 1 !(!(s=1))", "keep 1 (((!s=1)))",
+                    "keep 1 !!((s=1))", "keep 1 ((((s=1))))&((((s=1))))", "keep 1 !!!!s=1|!!!!s=1",
+                    "keep 1 ((((s=1)))&(((s=1))))", "keep 1 (!!!s=1&!!!s=1)");
             x.faultAt(11, "keep 1 (((((s=1)))))", "keep 1 !!!!!s=1", "keep 1 ((((!s=1))))", "keep 1 !!!!(s=1)",
                     "keep 1 !(!(!s=1))", "keep 1 (((((", "keep 1 !!!!!");
             x.faultAt(15, "keep 1 ((((s=1&(s=1)))))", "keep 1 ((((s=1|!s=1))))", "keep 1 !!((s=1&!s=1))");
@@ -182,8 +202,8 @@ final class Towns extends Group {
 
     private void faults(Sentences s) {
         s.promise(8);
-        s.says("The FAULT: the place of the first byte with which none begins so"
-                + " (the end of THE TEXT, if it ends too early).", x -> {
+        s.says("The FAULT: the place of the first byte with which none begins so (the end of THE TEXT, if it"
+                + " ends too early).", x -> {
             String whole = "heft 12 (!s=12&w<3);keep 1 t>9";
             x.reads(whole);
             for (int end = 0; end < whole.length(); end++) {
@@ -214,8 +234,10 @@ final class Towns extends Group {
             x.still(30, "told(20)");
             x.still(40, "told(25)");
         });
-        s.says("NONE.", x -> x.still(NONE, "told(-1)", "told(1)", "told(9)", "told(16)", "told(19)", "told(26)", "told(MIN)",
-                "told(MAX)"));
+        s.says("NONE.", x -> {
+            x.still(NONE, "told(-1)", "told(1)", "told(9)", "told(16)", "told(19)", "told(26)", "told(MIN)",
+                    "told(MAX)");
+        });
         s.says("MOST (2 without): the last n of most, 2 if more.", x -> {
             x.is(2, "told(0)");
             x.town(0, "heft 1 s=1");
@@ -235,8 +257,8 @@ final class Towns extends Group {
 
     private void hefts(Sentences s) {
         s.promise(9);
-        s.says("HEFT of a SORT: the n of all heft whose E holds, together"
-                + " (2 and its number, if there are no heft CLAUSES at all).", x -> {
+        s.says("HEFT of a SORT: the n of all heft whose E holds, together (2 and its number, if there are no heft"
+                + " CLAUSES at all).", x -> {
             x.hefts(2, 3, 4, 5, 6, 7);
             x.town(0, "most 1;keep 9 s=0");
             x.hefts(2, 3, 4, 5, 6, 7);
