@@ -28,7 +28,10 @@ public final class LanguageTest {
         int classes = count(code, "\\bclass\\b");
         check(classes <= 12, classes + " classes");
         methodLengths(program);
-        face(Files.readString(Path.of("../shared/DOC.md")));
+        String document = Files.readString(Path.of("../shared/DOC.md"));
+        face(document);
+        constants(document);
+        parts(document, program);
         names();
         System.out.println(wrong == 0 ? "the program keeps to the language" : wrong + " faults of language");
         if (wrong != 0) {
@@ -105,16 +108,62 @@ public final class LanguageTest {
         Collections.sort(got);
         check(want.size() == 36, "the document's face has " + want.size() + " calls");
         check(want.equals(got), "the face is " + got + ", due is " + want);
-        List<String> constants = List.of("NONE", "BAD", "STATE", "FULL", "NO");
-        for (Field field : RidCoppers.class.getDeclaredFields()) {
-            boolean isPublic = Modifier.isPublic(field.getModifiers());
-            check(isPublic == constants.contains(field.getName()), field + " of the face");
-            check(isPublic || Modifier.isPrivate(field.getModifiers()), field + " is not private");
-        }
         Constructor<?>[] makers = RidCoppers.class.getDeclaredConstructors();
         check(makers.length == 1 && makers[0].getParameterCount() == 0 && Modifier.isPublic(makers[0].getModifiers()),
                 "not one public constructor");
         check(Modifier.isFinal(RidCoppers.class.getModifiers()), "the class is not final");
+    }
+
+    /** The constants are those of the document: their types, names and numbers. */
+    private static void constants(String document) {
+        List<String> want = new ArrayList<>();
+        for (Matcher m = Pattern.compile("public static final (\\w+) (.*);").matcher(document); m.find();) {
+            for (String constant : m.group(2).split(", ")) {
+                want.add(m.group(1) + " " + constant.replace("Long.MIN_VALUE", "" + Long.MIN_VALUE));
+            }
+        }
+        List<String> got = new ArrayList<>();
+        for (Field field : RidCoppers.class.getDeclaredFields()) {
+            if (Modifier.isPublic(field.getModifiers())) {
+                check(Modifier.isStatic(field.getModifiers()), field + " is not static");
+                got.add(field.getType().getName() + " " + field.getName() + " = " + number(field));
+            } else {
+                check(Modifier.isPrivate(field.getModifiers()), field + " is not private");
+            }
+        }
+        Collections.sort(want);
+        Collections.sort(got);
+        check(want.size() == 5, "the document has " + want.size() + " constants");
+        check(want.equals(got), "the constants are " + got + ", due is " + want);
+    }
+
+    private static long number(Field field) {
+        try {
+            return field.getLong(null);
+        } catch (IllegalAccessException e) {
+            throw new IllegalStateException(e);
+        }
+    }
+
+    /** What the interface says ahead of its calls stands there, and the calls behind it in their order. */
+    private static void parts(String document, String program) {
+        int parts = 0;
+        int at = 0;
+        for (Matcher m = Pattern.compile("Ahead of the calls (.*?) the interface says: (---- .*?)\\.\n")
+                .matcher(document); m.find();) {
+            parts++;
+            at = behind(program, at, "// " + m.group(2) + "\n");
+            for (String name : m.group(1).replace("`", "").split(", ")) {
+                at = behind(program, at, " " + name + "(");
+            }
+        }
+        check(parts == 5, "the document has " + parts + " parts of calls");
+    }
+
+    private static int behind(String program, int from, String words) {
+        int at = program.indexOf(words, from);
+        check(at >= 0, "not where it is due: " + words.trim());
+        return Math.max(at, from);
     }
 
     /** No method of the program's own bears the name of a public one; no class has many fields. */
